@@ -385,7 +385,9 @@ public final class CyclicLines {
         int taken = 0;
         for (int i = 0; i < tapeSize; i++) {
             int number = at(tape, i);
-            right &= number < NUMBERS;
+            if (number >= NUMBERS) {
+                right = false;
+            }
             if (number == taken % NUMBERS) {
                 taken++;
             }
@@ -744,7 +746,7 @@ public final class CyclicLines {
             place = 0;
             wrongAt = NONE;
             int from = 0;
-            while (from < n) {
+            for (int things = 0; things < n && from < n; things++) {
                 int to = endOf(bytes, from, n);
                 if (at(bytes, from) != ' ') {
                     addThing(bytes, from, to);
@@ -1324,12 +1326,6 @@ public final class CyclicLines {
             }
         }
 
-        void moveFirst() {
-            back.add(at(queue.serials, 0), at(queue.lengths, 0), next);
-            queue.dropFirst(1);
-            next = (next + 1) % NUMBERS;
-        }
-
         void forceRound() {
             forced = true;
             hand = 0;
@@ -1598,7 +1594,9 @@ public final class CyclicLines {
             boolean free = line.state == IN && !line.forced;
             boolean anew = free && line.fits();
             if (anew) {
-                line.moveFirst();
+                line.back.add(at(line.queue.serials, 0), at(line.queue.lengths, 0), line.next);
+                line.queue.dropFirst(1);
+                line.next = (line.next + 1) % NUMBERS;
             } else if (free && line.queue.size > 0) {
                 line.forceRound();
                 journal.add(tick, i, FORCED_ROW, line.back.size);
@@ -1798,61 +1796,70 @@ public final class CyclicLines {
     /** UNITS put to LINES, and LINES put two by two: the first of the best ways. */
     private static final class Ways {
         private static final int SPLIT_MOST = 8;
-        // Above all that can be summed up.
-        private static final int ABOVE = 1000;
 
         private final int[] lengths = new int[SPLIT_MOST];
         private final int[] chosen = new int[SPLIT_MOST];
-        private final int[] best = new int[SPLIT_MOST];
         private final int[] sums = new int[LINES_MOST];
         private final int[] partner = new int[LINES_MOST];
         private final int[] bestPartner = new int[LINES_MOST];
         private int units;
-        private int least;
         private int greatest;
 
+        /** Tries one greatest sum behind another, as the first way that keeps to the least is asked for. */
         int splitUnits(World world) {
-            gather(world);
-            clearRow(best, NONE);
+            int all = gather(world);
+            clearRow(chosen, NONE);
             clearRow(sums, 0);
-            least = ABOVE;
-            putUnit(world, 0, 0);
-            return least < ABOVE ? least : NONE;
+            int lines = Integer.bitCount(world.inState(IN));
+            if (units == 0 || lines <= 0) {
+                return units == 0 ? 0 : NONE;
+            }
+            // No way is below an even one.
+            for (int most = (all + lines - 1) / lines; most <= all; most++) {
+                if (putUnit(world, 0, most)) {
+                    return most;
+                }
+            }
+            return NONE;
         }
 
         int lineOfUnit(int k) {
-            return k >= 0 && k < units ? at(best, k) : NONE;
+            return k >= 0 && k < units ? at(chosen, k) : NONE;
         }
 
-        private void gather(World world) {
+        /** The LENGTHS of all UNITS to split, together. */
+        private int gather(World world) {
+            int all = 0;
             units = 0;
             for (int i = 0; i < world.size; i++) {
                 Units queue = world.lineAt(i).queue;
                 for (int k = 0; k < queue.size && units < SPLIT_MOST; k++) {
                     put(lengths, units, at(queue.lengths, k));
+                    all += at(queue.lengths, k);
                     units++;
                 }
             }
+            return all;
         }
 
-        private void putUnit(World world, int k, int most) {
-            if (most >= least) {
-                return;
-            }
+        /** Whether there is a way on from the k-th UNIT by which no sum is above the most. */
+        private boolean putUnit(World world, int k, int most) {
             if (k >= units) {
-                least = most;
-                copyRow(chosen, best, units);
-                return;
+                return true;
             }
             for (int i = 0; i < world.size; i++) {
-                if (world.lineAt(i).state == IN) {
-                    int sum = at(sums, i) + at(lengths, k);
+                int sum = at(sums, i) + at(lengths, k);
+                if (world.lineAt(i).state == IN && sum <= most) {
                     put(sums, i, sum);
                     put(chosen, k, i);
-                    putUnit(world, k + 1, sum > most ? sum : most);
+                    if (putUnit(world, k + 1, most)) {
+                        return true;
+                    }
                     put(sums, i, sum - at(lengths, k));
+                    put(chosen, k, NONE);
                 }
             }
+            return false;
         }
 
         int pairLines(World world) {
