@@ -69,9 +69,9 @@ public final class CyclicLines {
     private final Law lawNow = new Law();
     private final Law lawRead = new Law();
     private final Law lawKept = new Law();
-    private final World now = new World(lawNow);
-    private final World tried = new World(lawNow);
-    private final World kept = new World(lawNow);
+    private final World now = new World();
+    private final World tried = new World();
+    private final World kept = new World();
     private final World[] remembered = new World[ACTS_MOST];
     private final Text text = new Text();
     private final Period rows = new Period();
@@ -85,7 +85,7 @@ public final class CyclicLines {
 
     public CyclicLines() {
         for (int i = 0; i < remembered.length; i++) {
-            remembered[i] = new World(lawNow);
+            remembered[i] = new World();
         }
     }
 
@@ -201,7 +201,7 @@ public final class CyclicLines {
         for (int units = 1; units <= UNITS_MOST; units++) {
             tried.copyFrom(now);
             tried.lineAt(line).unitsMost = units;
-            tried.pass(TICKS_MOST, false);
+            tried.pass(TICKS_MOST, lawNow, false);
             if (tried.taken > most) {
                 most = tried.taken;
                 window = units;
@@ -279,7 +279,7 @@ public final class CyclicLines {
         }
         remember();
         int before = now.taken;
-        now.pass(n, true);
+        now.pass(n, lawNow, true);
         return now.taken - before;
     }
 
@@ -361,7 +361,7 @@ public final class CyclicLines {
 
     public int chance(int line) throws IndexOutOfBoundsException {
         lineOf(line);
-        return now.fillerChance(line);
+        return now.fillerChance(line, lawNow);
     }
 
     public int clear() {
@@ -370,7 +370,7 @@ public final class CyclicLines {
             if (tried.isClear()) {
                 return n;
             }
-            tried.pass(1, false);
+            tried.pass(1, lawNow, false);
         }
         return NONE;
     }
@@ -494,7 +494,7 @@ public final class CyclicLines {
         if (n < 0 || n > ODDS_MOST || k < 0 || k > ODDS_MOST) {
             throw new IllegalArgumentException("fillers are 0 to 5");
         }
-        int chance = now.fillerChance(line);
+        int chance = now.fillerChance(line, lawNow);
         long holds = 0;
         long all = 1;
         for (int i = 0; i < n; i++) {
@@ -562,7 +562,7 @@ public final class CyclicLines {
         }
         needTicks(n);
         tried.copyFrom(now);
-        tried.pass(n, false);
+        tried.pass(n, lawNow, false);
         return line == NONE ? tried.taken : tried.lineAt(line).row();
     }
 
@@ -575,7 +575,7 @@ public final class CyclicLines {
     public int trial(int n, boolean in) throws IllegalArgumentException {
         needTicks(n);
         tried.copyFrom(now);
-        tried.pass(n, true);
+        tried.pass(n, lawNow, true);
         return in ? tried.inState(IN) : tried.taken;
     }
 
@@ -585,7 +585,7 @@ public final class CyclicLines {
         for (int seedFrom = 1; seedFrom <= SEEDS; seedFrom++) {
             tried.copyFrom(now);
             tried.seedNow = seedFrom;
-            tried.pass(n, true);
+            tried.pass(n, lawNow, true);
             boolean better = most ? tried.taken > found : tried.taken < found;
             if (seedFrom == 1 || better) {
                 found = tried.taken;
@@ -962,7 +962,7 @@ public final class CyclicLines {
                 text.needs(Word.CLOSE);
             } else if (word.fact >= OF_FILLER) {
                 emit(-1 - word.fact);
-                text.needs(word);
+                text.passes(word);
             } else {
                 readSum(text);
                 boolean less = text.passes(Word.LESS);
@@ -980,7 +980,7 @@ public final class CyclicLines {
                 Word word = text.word();
                 if (word.fact >= 0 && word.fact < OF_FILLER) {
                     emit(-1 - word.fact);
-                    text.needs(word);
+                    text.passes(word);
                 } else {
                     emit(text.number(0, NUMBER_MOST));
                 }
@@ -1384,7 +1384,6 @@ public final class CyclicLines {
         // Stands in for a LINE that there is not, so that none is ever null.
         private final Line spare = new Line();
         private final Journal journal = new Journal();
-        private final Law law;
         private final int[] facts = new int[FACTS];
         private int size;
         private int texts;
@@ -1394,8 +1393,7 @@ public final class CyclicLines {
         private int told;
         private int seedNow = 1;
 
-        World(Law law) {
-            this.law = law;
+        World() {
             for (int i = 0; i < lines.length; i++) {
                 lines[i] = new Line();
             }
@@ -1525,29 +1523,29 @@ public final class CyclicLines {
         // -- ticks --
 
         /** So many TICKS more; without draws just that is bad whose CHANCE is 100. */
-        void pass(int ticks, boolean draws) {
+        void pass(int ticks, Law law, boolean draws) {
             for (int n = 0; n < ticks; n++) {
                 for (int i = 0; i < size; i++) {
                     if (lineAt(i).state != OUT) {
-                        passLine(i, draws);
+                        passLine(i, law, draws);
                     }
                 }
                 tick = tick < TICK_MOST ? tick + 1 : TICK_MOST;
             }
         }
 
-        private void passLine(int i, boolean draws) {
+        private void passLine(int i, Law law, boolean draws) {
             Line line = lineAt(i);
             boolean cameBad = line.watch();
             if (line.takesArrived()) {
-                take(i, line);
+                take(i, line, law);
             }
             line.air.comeAhead();
             if (line.state == IN) {
                 line.comeBack();
             }
             int place = send(i, line);
-            boolean bad = isSpoiled(chanceOn(line), draws);
+            boolean bad = isSpoiled(chanceOn(line, law), draws);
             if (place == NONE) {
                 line.air.putFiller(line.delay - 1, bad);
             } else {
@@ -1562,7 +1560,7 @@ public final class CyclicLines {
             }
         }
 
-        private void take(int i, Line line) {
+        private void take(int i, Line line, Law law) {
             int place = line.back.placeOf(line.expect);
             tellFacts(i, line);
             put(facts, OF_LENGTH, at(line.air.lengths, 0));
@@ -1617,12 +1615,12 @@ public final class CyclicLines {
             return place;
         }
 
-        int fillerChance(int i) {
+        int fillerChance(int i, Law law) {
             tellFacts(i, lineAt(i));
-            return chanceOn(lineAt(i));
+            return chanceOn(lineAt(i), law);
         }
 
-        private int chanceOn(Line line) {
+        private int chanceOn(Line line, Law law) {
             int sum = line.noise + law.sumOf(SPOIL, facts) - law.sumOf(MEND, facts);
             return sum < 0 ? 0 : sum > 100 ? 100 : sum;
         }

@@ -18,6 +18,8 @@ public final class PromiseTest {
         t.linesRight();
         t.linesWrong();
         t.linesTwelve();
+        t.linesAnew();
+        t.lawLong();
         t.lawRight();
         t.lawWrong();
         t.faults();
@@ -158,6 +160,11 @@ public final class PromiseTest {
 
     private void linesWrong() {
         linesAre("lines", 0);
+        linesAre("linez", 0);
+        linesAre("tick 1;tick 1;tick 1;tick 1;tick 1;tick 1;tick 1;tick 1;tick 1;tick 1;"
+                + "tick 1;tick 1;tick 1;tick 1; ", 99);
+        linesAre("tick 1;tick 1;tick 1;tick 1;tick 1;tick 1;tick 1;tick 1;tick 1;tick 1;"
+                + "tick 1;tick 1;tick 1;tick 1;;", 98);
         linesAre(" ;line", 1);
         linesAre("line;", 5);
         linesAre("line;  ", 7);
@@ -204,6 +211,33 @@ public final class PromiseTest {
         linesAre("tick 5;line (", 12);
     }
 
+    /** Nothing of a text that was wrong, or of what was gone back from, is in a line told later. */
+    private void linesAnew() {
+        CyclicLines x = new CyclicLines();
+        due("4: wrong", ARGUMENT, () -> Check.lines(x, "line noise 5 in;units 0 of 4 5 x"));
+        Check.lines(x, "line");
+        due("4: nothing waits", 0, () -> x.line(0, 6) + x.line(0, 1) + x.line(0, 0));
+        CyclicLines y = new CyclicLines();
+        y.image();
+        Check.lines(y, "line noise 100 proving;units 0 of 1 2;line delay 4 in;units 1 of 3 4 5");
+        y.ticks(20);
+        y.tell(1, 1);
+        y.ahead(NONE, 2);
+        y.back();
+        Check.lines(y, "line in;line delay 4 in");
+        for (int i = 0; i < 2; i++) {
+            int line = i;
+            due("4: as at first " + i, 0, () -> {
+                int sum = 0;
+                for (int what = 6; what < 18; what++) {
+                    sum += y.line(line, what);
+                }
+                return sum + y.air(line, 0, 0) + y.air(line, 1, 0);
+            });
+            due("4: no reply " + i, NONE, () -> y.reply(line, 1));
+        }
+    }
+
     private void linesTwelve() {
         CyclicLines x = new CyclicLines();
         for (int i = 1; i <= 12; i++) {
@@ -242,6 +276,29 @@ public final class PromiseTest {
         due("5: not, and, or", 3, () -> x.chance(0));
         Check.law(x, "spoil 3 if 1+1+delay>3;spoil 4 if 999 + 999<999+999+1;spoil 5 if 2<delay;spoil 8 if delay>2");
         due("5: sums are compared", 7, () -> x.chance(0));
+    }
+
+    /** Of 400 bytes, and many one behind another. */
+    private void lawLong() {
+        CyclicLines x = Check.of("line");
+        StringBuilder text = new StringBuilder("spoil 7 if kept");
+        while (text.length() < 396) {
+            text.append("+1");
+        }
+        text.append(">99");
+        check.same("5: all of the tape", 400, text.length());
+        for (int i = 0; i < 20; i++) {
+            due("5: long " + i, 1, () -> Check.law(x, text.toString()));
+        }
+        due("5: 191 in all", 7, () -> x.chance(0));
+        Check.law(x, text.toString().replace(">99", ">191").replace("+1+1+1>", "+1>"));
+        due("5: 189 in all", 0, () -> x.chance(0));
+        StringBuilder ands = new StringBuilder("spoil 7 if 1<2");
+        while (ands.length() < 380) {
+            ands.append(" and 1<2 or 2<1");
+        }
+        due("5: many", 1, () -> Check.law(x, ands.toString()));
+        due("5: many hold", 7, () -> x.chance(0));
     }
 
     private void lawIs(String text, int fault) {
@@ -924,6 +981,11 @@ public final class PromiseTest {
         due("17: not within sixty", NONE, () -> z.clear());
         z.undo();
         due("17: within sixty again", 57, () -> z.clear());
+        // What is bad at first delays all by as much.
+        Check.law(z, "spoil 99 if tick<3;spoil 1 if tick<3");
+        due("17: the sixtieth", 60, () -> z.clear());
+        Check.law(z, "spoil 99 if tick<4;spoil 1 if tick<4");
+        due("17: the sixty-first", NONE, () -> z.clear());
     }
 
     private void windows() {
@@ -952,7 +1014,21 @@ public final class PromiseTest {
         check.same("7: window by trying", least, window);
         check.same("7: window is not 1", true, window > 1);
         due("7: window leaves units most", 4, () -> x.line(0, 3));
+        CyclicLines z = queueOf72();
+        due("7: the widest window", 8, () -> z.line(0, 19));
         due("7: window of one that is out", 1, () -> Check.of("line in;line;units 0 of 1;units 1 of 4").line(1, 19));
+    }
+
+    private static CyclicLines queueOf72() {
+        CyclicLines x = Check.of("line delay 4 octets 60 in;line");
+        for (int i = 0; i < 3; i++) {
+            x.start(1);
+            for (int k = 0; k < 24; k++) {
+                x.tell(1, 1);
+            }
+            x.shut(1);
+        }
+        return x;
     }
 
     private void splits() {
