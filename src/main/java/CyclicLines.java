@@ -223,16 +223,16 @@ public final class CyclicLines {
         if (what < 0 || what > 2) {
             throw new NoSuchElementException("there is no such thing of a unit");
         }
-        int kept = of.back.size;
+        int sent = of.back.size;
         if (k < 0 || k >= of.row()) {
             return NONE;
         }
-        Units units = k < kept ? of.back : of.queue;
-        int place = k < kept ? k : k - kept;
+        Units units = k < sent ? of.back : of.queue;
+        int place = k < sent ? k : k - sent;
         switch (what) {
             case 0: return at(units.serials, place);
             case 1: return at(units.lengths, place);
-            default: return k < kept ? at(units.numbers, place) : NONE;
+            default: return k < sent ? at(units.numbers, place) : NONE;
         }
     }
 
@@ -710,7 +710,7 @@ public final class CyclicLines {
         END(""), WRONG(""), NUMBER(""),
         SEMICOLON(";"), OPEN("("), CLOSE(")"), LESS("<"), MORE(">"), PLUS("+"),
         LINE("line", OF_LINE), NOISE("noise"), DELAY("delay", OF_DELAY), UNITS("units"),
-        OCTETS("octets"), LIMIT("limit"), IN_STATE("in"), IN_PROOF("proving"), OF("of"),
+        OCTETS("octets"), LIMIT("limit"), IN_STATE("in"), PROVING_STATE("proving"), OF("of"),
         TICK("tick", OF_TICK), SPOIL_LINE("spoil"), MEND_LINE("mend"), WORTH_LINE("worth"),
         IF("if"), OR("or"), AND("and"), NOT("not"),
         FILLS("filler", OF_FILLER), FORCED("forced", OF_FORCED), REPEAT("repeat", OF_REPEAT),
@@ -1512,7 +1512,7 @@ public final class CyclicLines {
             }
             if (text.passes(Word.IN_STATE)) {
                 line.state = IN;
-            } else if (text.passes(Word.IN_PROOF)) {
+            } else if (text.passes(Word.PROVING_STATE)) {
                 line.state = PROVING;
             }
             if (!text.failed()) {
