@@ -66,12 +66,17 @@ public final class RefusedTest {
         check.same(name + ": as ahead of that act", Look.at(y), Look.at(x));
         check.same(name + ": the image is there", y.back(), x.back());
         check.same(name + ": as it was kept", Look.at(y), Look.at(x));
+        // What is left of the tape is the text that was fed, or none.
+        x.end(tape);
+        check.same(name + ": the tape is read", 2, x.lines());
+        check.same(name + ": what stood on it", tape == 0 ? 2 : 3, x.count(0));
     }
 
     private void refused(String name, Class<?> due, On on) {
         refused(name, due, TAPE, FAULT, on);
     }
 
+    /** The call answers that; all is as with one of whom it was not asked. */
     private void asked(String name, Object due, On on) {
         CyclicLines x = busy();
         check.due(name, due, () -> on.call(x));
